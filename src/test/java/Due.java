@@ -16,15 +16,24 @@ final class Due {
         }
     }
 
-    /** The very class is asked for: what the machine throws by itself is mostly a class below it. */
-    static void thrown(String call, Class<? extends Exception> want, Callable<?> made) {
+    private static void thrown(String call, Class<? extends Exception> want, Callable<?> made) {
         Object got;
         try {
             got = made.call();
         } catch (Exception e) {
-            got = e.getClass();
+            got = nameOf(e);
         }
-        answer(call, got, want);
+        answer(call, got, want.getSimpleName());
+    }
+
+    /** What the machine or the library throws is told apart from what LampRhythms itself throws. */
+    static String nameOf(Exception e) {
+        StackTraceElement[] from = e.getStackTrace();
+        boolean own = from.length > 0 && from[0].getClassName().startsWith("LampRhythms");
+        boolean named = e.getClass() == IndexOutOfBoundsException.class
+                || e.getClass() == IllegalArgumentException.class
+                || e.getClass() == IllegalStateException.class;
+        return own && named ? e.getClass().getSimpleName() : "of the machine: " + e;
     }
 
     static void noSuch(String call, Callable<?> made) {

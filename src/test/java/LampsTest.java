@@ -200,6 +200,7 @@ final class LampsTest {
         x.lamp(10, 10, 0, 4, 255);
         x.lamp(10, 10, 0, 4, 1 << 2 | 1 << 7);
         x.lamp(0, 31, 0, 40, 255);
+        x.lamp(30, 0, 0, 3, 255);
         for (int row = 0; row < 32; row++) {
             for (int column = 0; column < 32; column++) {
                 boolean near = column >= 6 && column <= 14 && row >= 6 && row <= 14;
@@ -209,6 +210,7 @@ final class LampsTest {
                 Due.answer("lamp 1 from " + place, x.isSeen(1, column, row),
                         near && (sector == 2 || sector == 7 || sector == -1));
                 Due.answer("lamp 2 from " + place, x.isSeen(2, column, row), true);
+                Due.answer("lamp 3 from " + place, x.isSeen(3, column, row), column >= 27 && row <= 3);
             }
         }
         x.fail(0, true);
@@ -288,5 +290,14 @@ final class LampsTest {
             x.lamp(0, 0, 1, 40, 255);
         }
         Due.answer("clashes() of twelve", x.clashes(), 2 + 36);
+        clashOfOnePlace();
+    }
+
+    private static void clashOfOnePlace() {
+        LampRhythms x = harbour();
+        x.lamp(10, 10, 0, 1, 255);
+        x.lamp(12, 12, 0, 1, 255);
+        Due.answer("common, one place", x.common(0, 1), 1);
+        Due.answer("clashes() by one place", x.clashes(), 1);
     }
 }

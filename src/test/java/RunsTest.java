@@ -45,7 +45,9 @@ final class RunsTest {
         tested.correct(0, 100);
         for (int i = 0; i < 5000; i++) {
             Call call = Call.any(chance, any, i % 2 == 0);
-            Due.answer("late call " + call, !call.answerOf(tested).equals("undeclared"), true);
+            Object got = call.answerOf(tested);
+            boolean ofTheMachine = got.toString().startsWith("of the machine");
+            Due.answer("late call " + call, ofTheMachine ? got : "any", "any");
         }
     }
 
@@ -121,10 +123,7 @@ final class RunsTest {
             try {
                 return asked(x);
             } catch (RuntimeException e) {
-                boolean named = e.getClass() == IndexOutOfBoundsException.class
-                        || e.getClass() == IllegalArgumentException.class
-                        || e.getClass() == IllegalStateException.class;
-                return named ? e.getClass().getSimpleName() : "undeclared";
+                return Due.nameOf(e);
             }
         }
 
@@ -398,7 +397,8 @@ final class RunsTest {
             List<Integer> found = new ArrayList<>();
             for (int i = 0; i < lamps.size(); i++) {
                 int pattern = shown(a[0], i);
-                if (pattern >= 0 && isSeen(lamps.get(i), a[1], a[2]) && patterns.get(pattern).repeat(60).contains(look)) {
+                boolean alike = pattern >= 0 && patterns.get(pattern).repeat(60).contains(look);
+                if (alike && isSeen(lamps.get(i), a[1], a[2])) {
                     found.add(i);
                 }
             }
