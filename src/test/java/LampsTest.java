@@ -195,29 +195,40 @@ final class LampsTest {
         }
     }
 
-    private static void isSeen() {
+    private static LampRhythms fourLamps() {
         LampRhythms x = harbour();
         x.lamp(10, 10, 0, 4, 255);
         x.lamp(10, 10, 0, 4, 1 << 2 | 1 << 7);
         x.lamp(0, 31, 0, 40, 255);
         x.lamp(30, 0, 0, 3, 255);
+        return x;
+    }
+
+    private static void isSeen() {
         for (int row = 0; row < 32; row++) {
-            for (int column = 0; column < 32; column++) {
-                boolean near = column >= 6 && column <= 14 && row >= 6 && row <= 14;
-                int sector = x.sector(1, column, row);
-                String place = "(" + column + ", " + row + ")";
-                Due.answer("lamp 0 from " + place, x.isSeen(0, column, row), near);
-                Due.answer("lamp 1 from " + place, x.isSeen(1, column, row),
-                        near && (sector == 2 || sector == 7 || sector == -1));
-                Due.answer("lamp 2 from " + place, x.isSeen(2, column, row), true);
-                Due.answer("lamp 3 from " + place, x.isSeen(3, column, row), column >= 27 && row <= 3);
-            }
+            isSeenFromRow(row);
         }
+        LampRhythms x = fourLamps();
         x.fail(0, true);
         Due.answer("a failed lamp, from its place", x.isSeen(0, 10, 10), true);
         Due.answer("a failed lamp, from its reach", x.isSeen(0, 14, 6), true);
         Due.answer("a failed lamp, from beyond", x.isSeen(0, 15, 6), false);
         eachSectorBit();
+    }
+
+    /** A harbour for each row: no object has more than its 512 calls. */
+    private static void isSeenFromRow(int row) {
+        LampRhythms x = fourLamps();
+        for (int column = 0; column < 32; column++) {
+            boolean near = column >= 6 && column <= 14 && row >= 6 && row <= 14;
+            int sector = x.sector(1, column, row);
+            String place = "(" + column + ", " + row + ")";
+            Due.answer("lamp 0 from " + place, x.isSeen(0, column, row), near);
+            Due.answer("lamp 1 from " + place, x.isSeen(1, column, row),
+                    near && (sector == 2 || sector == 7 || sector == -1));
+            Due.answer("lamp 2 from " + place, x.isSeen(2, column, row), true);
+            Due.answer("lamp 3 from " + place, x.isSeen(3, column, row), column >= 27 && row <= 3);
+        }
     }
 
     private static void eachSectorBit() {
