@@ -304,12 +304,11 @@ public final class LampRhythms {
 
     /** A rhythm of light and dark that begins again with each period. */
     private static final class Pattern {
-        final int[] phases;
         final int period;
         // The bit k tells whether the second k of the period is light; 6 phases of 9 seconds fit.
         final long light;
-        // How many phases, from the first, make the whole rhythm when they are repeated.
-        final int cycle;
+        // The fewest phases, from the first, that make the whole rhythm when they are repeated.
+        final int[] cycle;
 
         Pattern(int[] phases) {
             int seconds = 0;
@@ -322,13 +321,12 @@ public final class LampRhythms {
                     seconds++;
                 }
             }
-            this.phases = phases;
             this.period = seconds;
             this.light = lit;
-            this.cycle = cycleOf(phases);
+            this.cycle = Arrays.copyOf(phases, fewestOf(phases));
         }
 
-        private static int cycleOf(int[] phases) {
+        private static int fewestOf(int[] phases) {
             for (int few = 2; few < phases.length; few += 2) {
                 if (phases.length % few == 0 && repeatsAfter(phases, few)) {
                     return few;
@@ -354,22 +352,21 @@ public final class LampRhythms {
         }
 
         boolean hasPhasesOf(Pattern other) {
-            if (cycle != other.cycle) {
+            if (cycle.length != other.cycle.length) {
                 return false;
             }
             // Only turns by an even number put light phases upon light ones.
-            for (int turn = 0; turn < cycle; turn += 2) {
-                if (hasPhasesTurned(other, turn)) {
+            for (int turn = 0; turn < cycle.length; turn += 2) {
+                if (hasPhasesTurned(other.cycle, turn)) {
                     return true;
                 }
             }
             return false;
         }
 
-        private boolean hasPhasesTurned(Pattern other, int turn) {
-            for (int i = 0; i < cycle; i++) {
-                int turned = i + turn < cycle ? i + turn : i + turn - cycle;
-                if (phases[turned] != other.phases[i]) {
+        private boolean hasPhasesTurned(int[] others, int turn) {
+            for (int i = 0; i < cycle.length && i < others.length; i++) {
+                if (cycle[(i + turn) % cycle.length] != others[i]) {
                     return false;
                 }
             }
